@@ -708,7 +708,6 @@ public final class TenantPlacement {
 
         void end() {
             phase = NO_MOVE;
-            left = 0;
         }
 
         /** Lets an hour pass and tells whether the tenant is cut over in it. */
@@ -722,7 +721,6 @@ public final class TenantPlacement {
             }
             left--;
             if (left <= 0) {
-                left = 0;
                 phase = phase == COPYING ? FOLLOWING : NO_MOVE;
             }
             return false;
