@@ -54,7 +54,8 @@ public final class TenantPlacement {
 
     // ---- shards and tenants
 
-    public int addShard(int storage, int load, int connections) {
+    public int addShard(int storage, int load, int connections)
+            throws IllegalArgumentException, IllegalStateException {
         requireRange(storage, 1, MOST_LIMIT);
         requireRange(load, 1, MOST_LIMIT);
         requireRange(connections, 1, MOST_LIMIT);
@@ -66,14 +67,15 @@ public final class TenantPlacement {
         return number;
     }
 
-    public boolean setOpen(int shard, boolean isOpen) {
+    public boolean setOpen(int shard, boolean isOpen) throws IndexOutOfBoundsException {
         Shard known = knownShard(shard);
         boolean wasOpen = known.isOpen;
         known.isOpen = isOpen;
         return wasOpen;
     }
 
-    public int setLimit(int shard, int measure, int limit) {
+    public int setLimit(int shard, int measure, int limit)
+            throws IndexOutOfBoundsException, IllegalArgumentException {
         Shard known = knownShard(shard);
         requireMeasure(measure);
         requireRange(limit, 1, MOST_LIMIT);
@@ -82,7 +84,9 @@ public final class TenantPlacement {
         return before;
     }
 
-    public int addTenant(int shard, int storage, int load, int connections, int growth) {
+    public int addTenant(int shard, int storage, int load, int connections, int growth)
+            throws IndexOutOfBoundsException, IllegalArgumentException,
+            UnsupportedOperationException, IllegalStateException {
         Shard known = knownShard(shard);
         requireRange(storage, 1, MOST_SIZE);
         requireRange(load, 1, MOST_SIZE);
@@ -101,7 +105,8 @@ public final class TenantPlacement {
         return number;
     }
 
-    public int setSize(int tenant, int measure, int size) {
+    public int setSize(int tenant, int measure, int size)
+            throws IndexOutOfBoundsException, IllegalArgumentException {
         Tenant known = knownTenant(tenant);
         requireRange(measure, LOAD, CONNECTIONS);
         requireRange(size, 1, MOST_SIZE);
@@ -112,7 +117,8 @@ public final class TenantPlacement {
         return before;
     }
 
-    public int setWindow(int tenant, int first, int end) {
+    public int setWindow(int tenant, int first, int end)
+            throws IndexOutOfBoundsException, IllegalArgumentException {
         Tenant known = knownTenant(tenant);
         requireRange(first, 0, HOURS_OF_DAY - 1);
         requireRange(end, 0, HOURS_OF_DAY - 1);
@@ -121,7 +127,9 @@ public final class TenantPlacement {
         return known.windowHours();
     }
 
-    public int keepApart(int tenant, int other) {
+    public int keepApart(int tenant, int other)
+            throws IndexOutOfBoundsException, IllegalArgumentException,
+            UnsupportedOperationException, IllegalStateException {
         Tenant one = knownTenant(tenant);
         Tenant two = knownTenant(other);
         if (tenant == other) {
@@ -141,7 +149,8 @@ public final class TenantPlacement {
 
     // ---- moves
 
-    public int move(int tenant, int shard) {
+    public int move(int tenant, int shard)
+            throws IndexOutOfBoundsException, UnsupportedOperationException, IllegalStateException {
         Tenant known = knownTenant(tenant);
         if (reason(tenant, shard) != 'n') {
             throw new UnsupportedOperationException("the tenant cannot be moved to the shard");
@@ -156,7 +165,7 @@ public final class TenantPlacement {
         return hours;
     }
 
-    public char reason(int tenant, int shard) {
+    public char reason(int tenant, int shard) throws IndexOutOfBoundsException {
         Tenant one = knownTenant(tenant);
         Shard known = knownShard(shard);
         if (one.move.isUnderWay()) {
@@ -178,7 +187,7 @@ public final class TenantPlacement {
         return 'n';
     }
 
-    public char fail(int tenant) {
+    public char fail(int tenant) throws IndexOutOfBoundsException, IllegalStateException {
         Tenant known = knownTenant(tenant);
         if (!known.move.isUnderWay()) {
             throw new IllegalStateException("the tenant has no move");
@@ -197,7 +206,7 @@ public final class TenantPlacement {
         return 'a';
     }
 
-    public int pass(int hours) {
+    public int pass(int hours) throws IllegalArgumentException {
         requireRange(hours, 1, MOST_HOURS_AT_ONCE);
         int cutOver = 0;
         for (int hour = 0; hour < hours; hour++) {
@@ -215,15 +224,15 @@ public final class TenantPlacement {
         return now;
     }
 
-    public char phase(int tenant) {
+    public char phase(int tenant) throws IndexOutOfBoundsException {
         return knownTenant(tenant).move.phase;
     }
 
-    public int targetOf(int tenant) {
+    public int targetOf(int tenant) throws IndexOutOfBoundsException, NoSuchElementException {
         return movingTenant(tenant).move.target;
     }
 
-    public int hoursLeft(int tenant) {
+    public int hoursLeft(int tenant) throws IndexOutOfBoundsException, NoSuchElementException {
         Tenant moving = movingTenant(tenant);
         int left = moving.move.left;
         if (!moving.move.isBeforeCutting()) {
@@ -233,7 +242,7 @@ public final class TenantPlacement {
         return left + waiting + CUTTING_HOURS + CLEANING_HOURS;
     }
 
-    public int hoursByPassing(int tenant) {
+    public int hoursByPassing(int tenant) throws IndexOutOfBoundsException, NoSuchElementException {
         Tenant moving = movingTenant(tenant);
         trialMove.copyFrom(moving.move);
         int passed = 0;
@@ -276,23 +285,23 @@ public final class TenantPlacement {
         return count;
     }
 
-    public int servedBy(int tenant) {
+    public int servedBy(int tenant) throws IndexOutOfBoundsException {
         return knownTenant(tenant).server;
     }
 
-    public int sizeOf(int tenant, int measure) {
+    public int sizeOf(int tenant, int measure) throws IndexOutOfBoundsException {
         Tenant known = knownTenant(tenant);
         requireMeasure(measure);
         return known.sizes.of(measure);
     }
 
-    public int used(int shard, int measure) {
+    public int used(int shard, int measure) throws IndexOutOfBoundsException {
         Shard known = knownShard(shard);
         requireMeasure(measure);
         return known.use.of(measure);
     }
 
-    public int usedByLooking(int shard, int measure) {
+    public int usedByLooking(int shard, int measure) throws IndexOutOfBoundsException {
         knownShard(shard);
         requireMeasure(measure);
         int sum = 0;
@@ -304,11 +313,11 @@ public final class TenantPlacement {
         return sum;
     }
 
-    public boolean isOver(int shard) {
+    public boolean isOver(int shard) throws IndexOutOfBoundsException {
         return knownShard(shard).usesTooMuch();
     }
 
-    public int served(int shard) {
+    public int served(int shard) throws IndexOutOfBoundsException {
         knownShard(shard);
         int count = 0;
         for (Tenant tenant : allTenants) {
@@ -321,19 +330,19 @@ public final class TenantPlacement {
 
     // ---- plans
 
-    public int fewestMoves() {
+    public int fewestMoves() throws NoSuchElementException {
         int fewest = planner.findBest(allShards, allTenants);
         requirePlan(fewest);
         return fewest;
     }
 
-    public int fewestByTrying() {
+    public int fewestByTrying() throws NoSuchElementException {
         planner.tryAll(allShards, allTenants);
         requirePlan(planner.fewest);
         return planner.fewest;
     }
 
-    public int planned(int tenant) {
+    public int planned(int tenant) throws IndexOutOfBoundsException, NoSuchElementException {
         Tenant known = knownTenant(tenant);
         requirePlan(planner.findBest(allShards, allTenants));
         return known.trialShard;
@@ -354,14 +363,14 @@ public final class TenantPlacement {
         return hoursOverSoFar;
     }
 
-    public float shareOf(int shard, int measure) {
+    public float shareOf(int shard, int measure) throws IndexOutOfBoundsException {
         Shard known = knownShard(shard);
         requireMeasure(measure);
         int limit = known.limits.of(measure);
         return limit < 1 ? 0f : (float) known.use.of(measure) / (float) limit;
     }
 
-    public double meanStorage() {
+    public double meanStorage() throws ArithmeticException {
         int sum = 0;
         int count = 0;
         for (Tenant tenant : allTenants) {

@@ -19,7 +19,7 @@ public final class RandomRunsTest {
     public static void main(String[] args) {
         for (int run = 0; run < RUNS; run++) {
             Check.part("random run " + run);
-            new RandomRunsTest(run).go(run);
+            new RandomRunsTest(run).go();
         }
         Check.end();
     }
@@ -74,7 +74,7 @@ public final class RandomRunsTest {
         onOracle = oracle;
     }
 
-    private void go(int run) {
+    private void go() {
         int looks = between(2, 6);
         int tight = draw(3);
         for (int i = 0; i < CALLS; i++) {
@@ -90,6 +90,14 @@ public final class RandomRunsTest {
                 return;
             }
         }
+    }
+
+    private int firstMoving() {
+        int tenant = 0;
+        while (oracle.phase(tenant) == '-') {
+            tenant++;
+        }
+        return tenant;
     }
 
     private int limit(int tight) {
@@ -143,7 +151,8 @@ public final class RandomRunsTest {
             set("move(" + tenant + ", " + shard + ")",
                 d -> d.move(tenant, shard), o -> o.move(tenant, shard));
         } else if (kind < 20) {
-            set("fail(" + tenant + ")", d -> d.fail(tenant), o -> o.fail(tenant));
+            int failing = oracle.moves() > 0 && draw(2) == 0 ? firstMoving() : tenant;
+            set("fail(" + failing + ")", d -> d.fail(failing), o -> o.fail(failing));
         } else {
             int hours = draw(3) == 0 ? value(1, 48) : value(1, 4);
             set("pass(" + hours + ")", d -> d.pass(hours), o -> o.pass(hours));
