@@ -438,8 +438,8 @@ public final class TenantPlacement {
     }
 
     /**
-     * Counts a tenant in (sign 1) or out (sign -1) of what the shards use. Whatever changes a
-     * tenant counts it out before and in again after, so that no kind of change has sums of its own.
+     * Counts a tenant in (sign 1) or out (sign -1) of what the shards use. What changes a tenant
+     * counts it out before and in again after, so that no kind of change has sums of its own.
      */
     private void countUse(Tenant tenant, int sign) {
         for (int number = 0; number < allShards.length; number++) {
