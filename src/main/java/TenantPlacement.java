@@ -26,7 +26,7 @@ public final class TenantPlacement {
     private static final int STORAGE_AN_HOUR = 20;
     private static final int CUTTING_HOURS = 1;
     private static final int CLEANING_HOURS = 2;
-    /** Far above the hours of any move, which are at most 50 + 23 + 1 + 2. */
+    /** Far above the hours of any move: a target holds 300 at most, so 15 + 23 + 1 + 2. */
     private static final int MOST_HOURS_OF_MOVE = 1000;
 
     private static final char COPYING = 'c';

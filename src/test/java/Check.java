@@ -23,14 +23,13 @@ final class Check {
         }
     }
 
-    /** The call on a fresh desk throws just this exception and changes nothing that can be seen. */
+    /** The call throws just this exception, and leaves the desk as one that was never called. */
     static void refuses(
             String what,
             Class<? extends RuntimeException> want,
             Supplier<TenantPlacement> maker,
             Consumer<TenantPlacement> call) {
         TenantPlacement desk = maker.get();
-        String before = State.of(desk);
         Object thrown = "nothing";
         try {
             call.accept(desk);
@@ -38,7 +37,18 @@ final class Check {
             thrown = e.getClass();
         }
         due(what + " throws", want, thrown);
-        due(what + " changes nothing", before, State.of(desk));
+        due(what + " changes nothing", State.all(maker.get()), State.all(desk));
+    }
+
+    /** Each test runs, also when one before it ends with an exception. */
+    static void each(Runnable... tests) {
+        for (Runnable test : tests) {
+            try {
+                test.run();
+            } catch (RuntimeException e) {
+                due("the test throws", "nothing", e.toString());
+            }
+        }
     }
 
     static void end() {

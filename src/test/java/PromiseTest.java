@@ -1,20 +1,7 @@
-import java.util.NoSuchElementException;
-import java.util.function.Consumer;
 import java.util.function.Supplier;
 
 /** One test for each promise: ordinary calls, the edges that the document names, wrong calls. */
-public final class PromiseTest {
-    private static final Class<IndexOutOfBoundsException> INDEX = IndexOutOfBoundsException.class;
-    private static final Class<IllegalArgumentException> ARGUMENT = IllegalArgumentException.class;
-    private static final Class<UnsupportedOperationException> OPERATION =
-        UnsupportedOperationException.class;
-    private static final Class<IllegalStateException> STATE = IllegalStateException.class;
-    private static final Class<NoSuchElementException> ELEMENT = NoSuchElementException.class;
-    private static final Class<ArithmeticException> ARITHMETIC = ArithmeticException.class;
-
-    /** Numbers that no shard, tenant or measure of the desks below has. */
-    private static final int[] NOWHERE = {-1, 7, Integer.MIN_VALUE, Integer.MAX_VALUE};
-
+public final class PromiseTest extends DeskChecks {
     private PromiseTest() {
     }
 
@@ -60,104 +47,6 @@ public final class PromiseTest {
         shareOf();
         meanStorage();
         Check.end();
-    }
-
-    // ---- desks to start from
-
-    private static TenantPlacement empty() {
-        return new TenantPlacement();
-    }
-
-    private static TenantPlacement shardsOf(int... limits) {
-        TenantPlacement desk = new TenantPlacement();
-        for (int limit : limits) {
-            desk.addShard(limit, limit, limit);
-        }
-        return desk;
-    }
-
-    /** Two wide shards; tenant 0 (45, 30, 20, growth 5) and tenant 1 (40, 10, 10, none) on 0. */
-    private static TenantPlacement two() {
-        TenantPlacement desk = shardsOf(300, 300);
-        desk.addTenant(0, 45, 30, 20, 5);
-        desk.addTenant(0, 40, 10, 10, 0);
-        return desk;
-    }
-
-    private static TenantPlacement copying() {
-        TenantPlacement desk = two();
-        desk.move(0, 1);
-        return desk;
-    }
-
-    private static TenantPlacement following() {
-        TenantPlacement desk = copying();
-        desk.pass(3);
-        return desk;
-    }
-
-    private static TenantPlacement cleaning() {
-        TenantPlacement desk = following();
-        desk.pass(1);
-        return desk;
-    }
-
-    private static void used(TenantPlacement desk, int shard, int storage, int load, int links) {
-        int[] want = {storage, load, links};
-        for (int measure = 0; measure < 3; measure++) {
-            String of = "(" + shard + ", " + measure + ")";
-            Check.due("used" + of, want[measure], desk.used(shard, measure));
-            Check.due("usedByLooking" + of, want[measure], desk.usedByLooking(shard, measure));
-        }
-    }
-
-    /** Both ways of finding the hours must tell the same, and what passing really tells. */
-    private static void hours(TenantPlacement desk, int tenant, int want) {
-        Check.due("hoursLeft", want, desk.hoursLeft(tenant));
-        Check.due("hoursByPassing", want, desk.hoursByPassing(tenant));
-    }
-
-    private static void fewest(TenantPlacement desk, int want) {
-        Check.due("fewestMoves", want, desk.fewestMoves());
-        Check.due("fewestByTrying", want, desk.fewestByTrying());
-    }
-
-    private static void plan(TenantPlacement desk, int... want) {
-        for (int tenant = 0; tenant < want.length; tenant++) {
-            Check.due("planned(" + tenant + ")", want[tenant], desk.planned(tenant));
-        }
-    }
-
-    private static void refuseTenants(
-            String call, Supplier<TenantPlacement> maker, TenantCall refused) {
-        for (int tenant : NOWHERE) {
-            Consumer<TenantPlacement> it = desk -> refused.on(desk, tenant);
-            Check.refuses(call + " of tenant " + tenant, INDEX, maker, it);
-        }
-        int behind = maker.get().tenants();
-        Check.refuses(call + " behind the last", INDEX, maker, desk -> refused.on(desk, behind));
-    }
-
-    private static void refuseShards(
-            String call, Supplier<TenantPlacement> maker, TenantCall refused) {
-        for (int shard : NOWHERE) {
-            Consumer<TenantPlacement> it = desk -> refused.on(desk, shard);
-            Check.refuses(call + " of shard " + shard, INDEX, maker, it);
-        }
-        int behind = maker.get().shards();
-        Check.refuses(call + " behind the last", INDEX, maker, desk -> refused.on(desk, behind));
-    }
-
-    private static void refuseMeasures(
-            String call, Supplier<TenantPlacement> maker, TenantCall refused) {
-        for (int measure : new int[] {-1, 3, Integer.MIN_VALUE, Integer.MAX_VALUE}) {
-            Consumer<TenantPlacement> it = desk -> refused.on(desk, measure);
-            Check.refuses(call + " of measure " + measure, INDEX, maker, it);
-        }
-    }
-
-    private interface TenantCall {
-        void on(TenantPlacement desk, int number);
     }
 
     // ---- promises
@@ -280,23 +169,6 @@ public final class PromiseTest {
             Check.refuses("growth " + wrong, ARGUMENT,
                 PromiseTest::two, d -> d.addTenant(1, 1, 1, 1, wrong));
         }
-    }
-
-    /** As many shards and tenants as there may be: behind the last ones there is nothing either. */
-    private static TenantPlacement full() {
-        TenantPlacement desk = shardsOf(300, 300, 300, 300);
-        for (int tenant = 0; tenant < 6; tenant++) {
-            desk.addTenant(0, 50, 50, 50, 0);
-        }
-        return desk;
-    }
-
-    private static TenantPlacement sixTenants() {
-        TenantPlacement desk = shardsOf(100, 300);
-        for (int i = 0; i < 6; i++) {
-            desk.addTenant(1, 10 + i, 20, 30, i);
-        }
-        return desk;
     }
 
     private static void addTenantRoom() {
@@ -453,17 +325,6 @@ public final class PromiseTest {
             return desk;
         };
         Check.refuses("closed", OPERATION, closed, d -> d.move(0, 1));
-    }
-
-    private static TenantPlacement threeMoves() {
-        TenantPlacement desk = shardsOf(300, 300, 10);
-        for (int i = 0; i < 4; i++) {
-            desk.addTenant(0, 50, 50, 50, 0);
-        }
-        desk.move(2, 1);
-        desk.move(0, 1);
-        desk.move(3, 1);
-        return desk;
     }
 
     private static void moveLimit() {
@@ -674,19 +535,6 @@ public final class PromiseTest {
         for (int wrong : new int[] {0, -1, 49, Integer.MIN_VALUE, Integer.MAX_VALUE}) {
             Check.refuses("hours " + wrong, ARGUMENT, PromiseTest::copying, d -> d.pass(wrong));
         }
-    }
-
-    /** The hour of the day in which a tenant that follows from hour 3 on is cut over. */
-    private static int hourOfCutting(int first, int end) {
-        TenantPlacement desk = following();
-        desk.setWindow(0, first, end);
-        for (int i = 0; i < 48; i++) {
-            int hour = desk.time();
-            if (desk.pass(1) == 1) {
-                return hour;
-            }
-        }
-        return -1;
     }
 
     private static void passOrder() {
@@ -934,23 +782,6 @@ public final class PromiseTest {
         Check.due("cut over from", 1, cleaning().served(0));
         refuseShards("served", PromiseTest::two, (d, s) -> d.served(s));
         refuseShards("served, full", PromiseTest::full, (d, s) -> d.served(s));
-    }
-
-    /** Three shards of 100; tenants of 60, 30 and 10 on shard 0, which is full to the brim. */
-    private static TenantPlacement brim() {
-        TenantPlacement desk = shardsOf(100, 100, 100);
-        desk.addTenant(0, 60, 60, 60, 0);
-        desk.addTenant(0, 30, 30, 30, 0);
-        desk.addTenant(0, 10, 10, 10, 0);
-        return desk;
-    }
-
-    private static TenantPlacement hopeless() {
-        TenantPlacement desk = brim();
-        for (int shard = 0; shard < 3; shard++) {
-            desk.setLimit(shard, 1, 59);
-        }
-        return desk;
     }
 
     private static void fewestMoves() {

@@ -74,10 +74,31 @@ public final class RandomRunsTest {
         onOracle = oracle;
     }
 
+    /** A desk that is full from the first: 4 shards, 6 tenants, 6 pairs in a ring. */
+    private int fill() {
+        for (int shard = 0; shard < 4; shard++) {
+            int limit = between(150, 300);
+            desk.addShard(limit, limit, limit);
+            oracle.addShard(limit, limit, limit);
+        }
+        for (int tenant = 0; tenant < 6; tenant++) {
+            int size = between(1, 75);
+            int growth = draw(10);
+            desk.addTenant(tenant % 4, size, size, size, growth);
+            oracle.addTenant(tenant % 4, size, size, size, growth);
+        }
+        for (int tenant = 0; tenant < 6; tenant++) {
+            desk.keepApart(tenant, (tenant + 1) % 6);
+            oracle.keepApart(tenant, (tenant + 1) % 6);
+        }
+        return 4 + 6 + 6;
+    }
+
     private void go() {
         int looks = between(2, 6);
         int tight = draw(3);
-        for (int i = 0; i < CALLS; i++) {
+        int first = draw(3) == 0 ? fill() : 0;
+        for (int i = first; i < CALLS; i++) {
             if (draw(10) < looks) {
                 look(draw(23));
             } else {

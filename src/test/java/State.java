@@ -1,8 +1,47 @@
 import java.util.function.Supplier;
 
-/** All that can be seen of a desk without changing it, as one text. */
+/** All that can be seen of a desk, as one text. */
 final class State {
     private State() {
+    }
+
+    /**
+     * What can be seen without a change, and then what only changes tell: which shards are open,
+     * limits, pairs, windows and growth. The desk is used up by it, with some 400 of its calls.
+     */
+    static String all(TenantPlacement desk) {
+        return of(desk) + "\n" + settings(desk) + "\n" + day(desk) + "\n" + of(desk);
+    }
+
+    private static String settings(TenantPlacement desk) {
+        StringBuilder text = new StringBuilder();
+        int shards = desk.shards();
+        for (int shard = 0; shard < shards; shard++) {
+            text.append(" open ").append(desk.setOpen(shard, true));
+            for (int measure = 0; measure < 3; measure++) {
+                text.append(' ').append(desk.setLimit(shard, measure, 300));
+            }
+        }
+        int tenants = desk.tenants();
+        for (int t = 0; t < tenants; t++) {
+            int tenant = t;
+            int next = shards == 0 ? 0 : (desk.servedBy(t) + 1) % shards;
+            text.append(" move ").append(outcome(() -> desk.move(tenant, next)));
+            for (int u = 0; u < tenants; u++) {
+                int other = u;
+                text.append(" apart ").append(outcome(() -> desk.keepApart(tenant, other)));
+            }
+        }
+        return text.toString();
+    }
+
+    /** A day and a copy's time, hour by hour: in which of them tenants are cut over, and growth. */
+    private static String day(TenantPlacement desk) {
+        StringBuilder text = new StringBuilder("cut over");
+        for (int hour = 0; hour < 30; hour++) {
+            text.append(' ').append(desk.pass(1));
+        }
+        return text.toString();
     }
 
     static String of(TenantPlacement desk) {
