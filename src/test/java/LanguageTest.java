@@ -5,52 +5,20 @@ import java.lang.reflect.Method;
 import java.lang.reflect.Modifier;
 import java.nio.file.Files;
 import java.nio.file.Path;
+import java.util.ArrayList;
 import java.util.Arrays;
 import java.util.List;
+import java.util.StringJoiner;
 import java.util.TreeSet;
 import java.util.regex.Matcher;
 import java.util.regex.Pattern;
 
 /** The face of the document, and those rules of LANGUAGE.md that can be told by looking. */
 public final class LanguageTest {
-    private static final List<String> FACE = List.of(
-        "int addShard(int, int, int)",
-        "boolean setOpen(int, boolean)",
-        "int setLimit(int, int, int)",
-        "int addTenant(int, int, int, int, int)",
-        "int setSize(int, int, int)",
-        "int setWindow(int, int, int)",
-        "int keepApart(int, int)",
-        "int move(int, int)",
-        "char reason(int, int)",
-        "char fail(int)",
-        "int pass(int)",
-        "int time()",
-        "char phase(int)",
-        "int targetOf(int)",
-        "int hoursLeft(int)",
-        "int hoursByPassing(int)",
-        "int moves()",
-        "int shards()",
-        "int tenants()",
-        "int servedBy(int)",
-        "int sizeOf(int, int)",
-        "int used(int, int)",
-        "int usedByLooking(int, int)",
-        "boolean isOver(int)",
-        "int served(int)",
-        "int fewestMoves()",
-        "int fewestByTrying()",
-        "int planned(int)",
-        "int soundPlans()",
-        "int switches()",
-        "long hoursOver()",
-        "float shareOf(int, int)",
-        "double meanStorage()");
-
     /** What the rules leave out, as it would stand in the text. */
     private static final List<String> BARRED = List.of(
-        "->", "::", "\\btry\\b", "\\bcatch\\b", "\\bfinally\\b", "\\bassert\\b", "\\bsynchronized\\b",
+        "->", "::", "\\btry\\b", "\\bcatch\\b", "\\bfinally\\b", "\\bassert\\b",
+        "\\bsynchronized\\b",
         "\\bpackage\\b", "\\bnative\\b", "\\bextends\\b", "\\bimplements\\b", "\\binstanceof\\b",
         "\\bSystem\\b", "\\bThread\\b", "\\bObject\\b", "\\bvar\\b", "Exact\\(", "\\bstatic \\{",
         "\\[\\]\\[\\]", "\\.equals\\(", "\\bhashCode\\b", "\\btoString\\b");
@@ -59,26 +27,54 @@ public final class LanguageTest {
     }
 
     public static void main(String[] args) throws IOException {
-        face();
-        inside();
-        text(Files.readString(Path.of(args[0])));
+        String source = Files.readString(Path.of(args[0]));
+        String doc = Files.readString(Path.of(args[1]));
+        List<String> declared = declared(doc);
+        face(declared);
+        inside(declared);
+        interfaceSays(doc, source, declared);
+        text(source);
         Check.end();
+    }
+
+    /** The document's face, method by method, each up to its semicolon. */
+    private static List<String> declared(String doc) {
+        List<String> methods = new ArrayList<>();
+        String start = "public final class TenantPlacement {\n    public TenantPlacement();\n";
+        int from = doc.indexOf(start);
+        Check.part("the public face");
+        Check.due("the document has it", true, from >= 0);
+        String inside = doc.substring(from + start.length(), doc.indexOf("\n}", from));
+        for (String line : inside.split("\n")) {
+            methods.add(line.strip().replace(";", ""));
+        }
+        return methods;
+    }
+
+    private static String nameOf(String declared) {
+        return declared.substring(0, declared.indexOf('(')).replaceFirst(".* ", "");
     }
 
     private static boolean isPrivate(int modifiers) {
         return Modifier.isPrivate(modifiers);
     }
 
+    /** As the document writes it, but for the parameters' names, which a class does not keep. */
     private static String signature(Method method) {
-        StringBuilder text = new StringBuilder();
-        text.append(method.getReturnType()).append(' ').append(method.getName()).append('(');
+        StringJoiner parameters = new StringJoiner(", ", "(", ")");
         for (Class<?> type : method.getParameterTypes()) {
-            text.append(text.charAt(text.length() - 1) == '(' ? "" : ", ").append(type);
+            parameters.add(type.getSimpleName());
         }
-        return text.append(')').toString();
+        StringJoiner thrown = new StringJoiner(", ", " throws ", "").setEmptyValue("");
+        for (Class<?> type : method.getExceptionTypes()) {
+            thrown.add(type.getSimpleName());
+        }
+        String modifiers = Modifier.toString(method.getModifiers());
+        String type = method.getReturnType().getSimpleName();
+        return modifiers + " " + type + " " + method.getName() + parameters + thrown;
     }
 
-    private static void face() {
+    private static void face(List<String> declared) {
         Check.part("rule 1");
         Class<?> face = TenantPlacement.class;
         int modifiers = face.getModifiers();
@@ -90,11 +86,14 @@ public final class LanguageTest {
             if (isPrivate(method.getModifiers())) {
                 hidden.add(method.getName());
             } else {
-                boolean isOfDesk = method.getModifiers() == Modifier.PUBLIC;
-                seen.add((isOfDesk ? "" : "not just public: ") + signature(method));
+                seen.add(signature(method));
             }
         }
-        Check.due("methods", new TreeSet<>(FACE), seen);
+        TreeSet<String> due = new TreeSet<>();
+        for (String method : declared) {
+            due.add(method.replaceAll("\\b(int|boolean) \\w+(?=[,)])", "$1"));
+        }
+        Check.due("methods", due, seen);
         for (Method method : face.getMethods()) {
             Check.due("a private " + method.getName(), false, hidden.contains(method.getName()));
         }
@@ -107,11 +106,11 @@ public final class LanguageTest {
         Check.due("it is public", Modifier.PUBLIC, constructors[0].getModifiers());
     }
 
-    private static void inside() {
+    private static void inside(List<String> declared) {
         Check.part("rules 2, 5 and 11");
         TreeSet<String> names = new TreeSet<>();
-        for (String signature : FACE) {
-            names.add(signature.substring(signature.indexOf(' ') + 1, signature.indexOf('(')));
+        for (String method : declared) {
+            names.add(nameOf(method));
         }
         Class<?>[] classes = TenantPlacement.class.getDeclaredClasses();
         Check.due("at most twelve classes", true, classes.length < 12);
@@ -134,6 +133,35 @@ public final class LanguageTest {
             }
             Check.due(one + " has some twenty fields", true, fields <= 20);
         }
+    }
+
+    /** The methods stand in the document's order, under the headings that it puts ahead of them. */
+    private static void interfaceSays(String doc, String source, List<String> declared) {
+        Check.part("the public face");
+        String code = source.replaceAll("\\s+", " ");
+        String ahead = "Ahead of the calls (.*) the interface says: (.*)\\.";
+        Matcher groups = Pattern.compile(ahead).matcher(doc);
+        List<String> due = new ArrayList<>();
+        while (groups.find()) {
+            due.add("// " + groups.group(2) + " ");
+            for (String name : groups.group(1).replace("`", "").split(", ")) {
+                due.add(name);
+            }
+        }
+        Check.due("headings and methods", true, due.size() > declared.size());
+        int at = 0;
+        int next = 0;
+        for (String one : due) {
+            boolean isHeading = one.startsWith("// ");
+            if (!isHeading) {
+                Check.due("its method", nameOf(declared.get(next)), one);
+            }
+            String text = isHeading ? one : declared.get(next++) + " {";
+            int found = code.indexOf(text, at);
+            Check.due(text + " stands behind the one before", true, found >= 0);
+            at = Math.max(at, found);
+        }
+        Check.due("methods under headings", declared.size(), next);
     }
 
     private static void text(String source) {
